@@ -27,7 +27,7 @@ public final class OtherHat {
     private static final int BLIND = 6;
     private static final int KINDS = 7;
     /** The KIND above each KIND; MAN has none. */
-    private static final int[] ABOVE = {-1, 0, 0, 0, HASTY, SLOW, SILENT};
+    private static final int[] ABOVE = {-1, 0, 0, 0, 1, 2, 3};
 
     private static final int RULE = 0;
     private static final int PAYS = 1;
@@ -745,12 +745,15 @@ public final class OtherHat {
         return blacks(man, worlds) >= whites(man, worlds) ? 1 : 0;
     }
 
-    /** The WORLDS that are like one in all MEN of a set. */
-    private static long alike(int seen, int world) {
+    /**
+     * The WORLDS that give all MEN of a set white HATS. Moved up by what one WORLD has in the set,
+     * they are those that are like it there.
+     */
+    private static long allWhite(int seen) {
         long worlds = -1L;
         for (int i = 0; i < MOST_MEN; i++) {
             if (bit(seen, i) == 1) {
-                worlds &= bit(world, i) == 1 ? BLACK_FOR[i] : ~BLACK_FOR[i];
+                worlds &= ~BLACK_FOR[i];
             }
         }
         return worlds;
@@ -817,7 +820,10 @@ public final class OtherHat {
 
         /** WHAT ONE THINKS in a WORLD. */
         private long thought(int man, int inWorld) {
-            return man < 0 || man >= MOST_MEN ? 0L : possible & alike(sees[man], inWorld);
+            if (man < 0 || man >= MOST_MEN) {
+                return 0L;
+            }
+            return possible & allWhite(sees[man]) << (inWorld & sees[man]);
         }
 
         private boolean hasSpoken(int man) {
@@ -902,11 +908,13 @@ public final class OtherHat {
 
         /** Those of some POSSIBLE WORLDS in which a MAN speaks or not, and says, as he did. */
         private long fitting(int man, long worlds, boolean spoken, int said) {
+            int seen = man < 0 || man >= MOST_MEN ? 0 : sees[man];
+            long white = allWhite(seen);
             long fit = 0L;
             long left = worlds;
             for (int w = 0; w < worldCount() && left != 0L; w++) {
                 if (holds(left, w)) {
-                    long thought = thought(man, w);
+                    long thought = possible & white << (w & seen);
                     boolean would = speaks(man, thought);
                     if (would == spoken && (!spoken || wouldSay(man, thought) == said)) {
                         fit |= thought & worlds;

@@ -339,6 +339,15 @@ public final class PromiseTests {
         due("13 that is more than two to one", x.thinks(0, 4), 1);
         x.become(0, 13);
         due("13 and no more than three to one", x.thinks(0, 4), 0);
+        x = men(12, 0, 0);
+        x.tellMan(0, 3, 0);
+        text(x, 0, "b>1");
+        wear(x, 3);
+        x.open();
+        due("13 black is three to one", x.thinks(0, 0) * 10 + x.thinks(0, 1), 31);
+        due("13 that is enough", x.thinks(0, 4), 1);
+        x.become(0, 43);
+        due("13 not for a bold one by 3", x.thinks(0, 4), 0);
     }
 
     private static void wages() {
@@ -793,6 +802,11 @@ public final class PromiseTests {
         x.put(0, 0, 1);
         due("33 the world isn't", x.worlds(0), STATE);
         due("33 stays", x.count(4), 2);
+        x.put(0, 0, 64);
+        due("33 64 is no world, nor 0", x.worlds(0), STATE);
+        x.sheet(0, 32, 1);
+        x.put(0, 0, -64);
+        due("33 nor is -64", x.worlds(0), STATE);
     }
 
     private static void images() {
