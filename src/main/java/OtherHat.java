@@ -855,9 +855,12 @@ public final class OtherHat {
 
         /** Whether a HASTY one dares to speak. */
         private boolean isSure(int man, long thought) {
-            int black = blacks(man, thought);
-            int white = whites(man, thought);
-            int m = man < 0 || man >= MOST_MEN ? 0 : number[man];
+            if (man < 0 || man >= MOST_MEN) {
+                return false;
+            }
+            int black = Long.bitCount(thought & BLACK_FOR[man]);
+            int white = Long.bitCount(thought) - black;
+            int m = number[man];
             return black == 0 || white == 0 || black > m * white || white > m * black;
         }
 

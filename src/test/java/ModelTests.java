@@ -691,10 +691,13 @@ public final class ModelTests {
         final Random random;
         final int number;
         final int mostMen;
+        /** One argument in so many is at an edge, or far away. */
+        final int edges;
 
         Run(int number) {
             this.number = number;
             random = new Random(number);
+            edges = number % 4 == 0 ? 3 : 25;
             mostMen = number % 9 == 0 ? 6 : 1 + number % 5;
         }
 
@@ -712,7 +715,7 @@ public final class ModelTests {
 
         /** A number of a range, now and then one at its edges or far away. */
         int some(int low, int high) {
-            if (oneIn(25)) return new int[] {low - 1, high + 1, Integer.MIN_VALUE, Integer.MAX_VALUE, -1}[below(5)];
+            if (oneIn(edges)) return new int[] {low - 1, high + 1, low, high, Integer.MIN_VALUE, Integer.MAX_VALUE, -1}[below(7)];
             return high < low ? low : low + below(high - low + 1);
         }
 
@@ -839,6 +842,39 @@ public final class ModelTests {
         }
     }
 
+    /** What takes some thirty BELLS, found by trying many: KINDS with m, SEES, THE WORLD, POSSIBLE as bits. */
+    private static void longRun(int number, int[] kms, int[] sees, int world, long possible) {
+        Run run = new Run(number);
+        for (int km : kms) run.due("man", km);
+        for (int i = 0; i < 6; i++) {
+            run.due("tellMan", i, 2, world >> i & 1);
+            run.due("tellMan", i, 3, sees[i]);
+        }
+        run.due("open");
+        run.due("sheet", 0, 8, Long.bitCount(possible));
+        int many = 0;
+        for (int w = 0; w < 64; w++) if ((possible >>> w & 1L) == 1L) run.due("put", 0, many++, w);
+        run.due("worlds", 0);
+        for (int bell = 0; bell < 4; bell++) {
+            run.askAll();
+            run.due("bells", 1);
+        }
+        for (int n = 0; n <= 30; n++) {
+            run.due("then", n, 0);
+            run.due("then", n, 1);
+        }
+        run.due("bells", 30);
+        run.askAll();
+    }
+
+    private static void longRuns() {
+        longRun(-1, new int[] {53, 29, 4, 52, 29, 29}, new int[] {36, 57, 10, 7, 46, 21}, 36, 0xb55ba6556b6975fbL);
+        longRun(-2, new int[] {53, 29, 4, 52, 29, 29}, new int[] {4, 57, 10, 6, 46, 21}, 36, 0xb55ba6556b6975fbL);
+        longRun(-3, new int[] {24, 8, 57, 4, 29, 59}, new int[] {38, 41, 32, 50, 15, 8}, 38, 0xee4d0b7551b8f4dbL);
+        longRun(-4, new int[] {59, 16, 29, 15, 59, 19}, new int[] {8, 33, 43, 21, 35, 26}, 11, 0xdf7df63679a896dL);
+        longRun(-5, new int[] {52, 29, 56, 59, 19, 15}, new int[] {36, 60, 48, 1, 37, 11}, 5, 0xd45e3d6a2a7685e9L);
+    }
+
     /** More runs than the usual ones, if their number is told. */
     public static void main(String[] args) {
         int runs = args.length == 0 ? RUNS : Integer.parseInt(args[0]);
@@ -846,6 +882,7 @@ public final class ModelTests {
             Run run = new Run(number);
             for (int i = 0; i < CALLS; i++) run.step();
         }
+        longRuns();
         System.out.println(wrong == 0 ? "all answers are as due" : wrong + " answers are not as due");
         if (wrong != 0) System.exit(1);
     }

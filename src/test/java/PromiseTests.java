@@ -1,52 +1,5 @@
 /** Each promise by itself: ordinary calls, the edges that the document names, wrong inputs. */
-public final class PromiseTests {
-    private static final int LOW = -1000000000;
-    private static final int BEYOND = LOW - 1;
-    private static final int NONE = LOW - 2;
-    private static final int STATE = LOW - 3;
-    private static final int FULL = LOW - 4;
-    private static final int KIND = LOW - 5;
-    private static final int FAR = Integer.MAX_VALUE;
-    private static final int DEEP = Integer.MIN_VALUE;
-
-    private static int wrong = 0;
-
-    private static void due(String what, long got, long want) {
-        if (got != want) {
-            wrong++;
-            System.out.println(what + " answered " + got + ", due is " + want);
-        }
-    }
-
-    /** An object with MEN of these KINDS and numbers. */
-    private static OtherHat men(int... kms) {
-        OtherHat x = new OtherHat();
-        for (int km : kms) x.man(km);
-        return x;
-    }
-
-    private static void wear(OtherHat x, int world) {
-        for (int i = 0; i < x.count(0); i++) x.tellMan(i, 2, world >> i & 1);
-    }
-
-    private static void feed(OtherHat x, String text) {
-        for (int i = 0; i < text.length(); i++) x.feed(text.charAt(i), 1);
-    }
-
-    private static int text(OtherHat x, int use, String text) {
-        feed(x, text);
-        return x.text(use);
-    }
-
-    /** MEN with a RULE and HATS, THE GATE open. */
-    private static OtherHat opened(String rule, int world, int... kms) {
-        OtherHat x = men(kms);
-        text(x, 0, rule);
-        wear(x, world);
-        x.open();
-        return x;
-    }
-
+public final class PromiseTests extends Due {
     private static void newObject() {
         OtherHat x = new OtherHat();
         int[] first = {0, 0, 0, 0, 0, 3, 0, 0, 0, 1};
@@ -962,7 +915,6 @@ public final class PromiseTests {
         check();
         count();
         told();
-        System.out.println(wrong == 0 ? "all answers are as due" : wrong + " answers are not as due");
-        if (wrong != 0) System.exit(1);
+        end();
     }
 }
