@@ -25,6 +25,9 @@ public final class LanguageTests {
         "int count(int)", "int told(int)"};
     private static final Set<String> STATIC_TYPES = Set.of("int", "long", "boolean", "char", "String", "int[]", "long[]", "char[]", "byte[]");
 
+    /** What of the library that rule 4 leaves the class uses; a call that is new here is looked up there first. */
+    private static final Set<String> LIBRARY = Set.of("Math.max", "Math.min", "Integer.bitCount", "Long.bitCount", "System.arraycopy");
+
     private static int wrong = 0;
 
     private static void must(boolean holds, String what) {
@@ -97,6 +100,24 @@ public final class LanguageTests {
         must(!Pattern.compile("\\w+Exact\\b").matcher(code).find(), "rule 4: Exact");
     }
 
+    private static void library(String code) {
+        Matcher called = Pattern.compile("\\b([A-Z]\\w*)\\.(\\w+)\\(").matcher(code);
+        while (called.find()) must(LIBRARY.contains(called.group(1) + "." + called.group(2)), "rule 4: " + called.group());
+        Matcher made = Pattern.compile("\\bnew (\\w+)").matcher(code);
+        Set<String> own = new TreeSet<>(List.of("int"));
+        for (Class<?> c : classes()) own.add(c.getSimpleName());
+        while (made.find()) must(own.contains(made.group(1)), "rule 4: " + made.group());
+    }
+
+    /** A loop's end is seen from its own line: each has a counter and a bound. */
+    private static void loops(String code) {
+        must(!Pattern.compile("\\b(while|do)\\b").matcher(code).find(), "rule 9: a loop without a counter");
+        Matcher loop = Pattern.compile("\\bfor \\(([^\n]*)\\) \\{").matcher(code);
+        while (loop.find()) {
+            must(loop.group(1).matches("int (\\w+) = \\w+; \\1 <=? .*; \\1\\+\\+"), "rule 9: for (" + loop.group(1) + ")");
+        }
+    }
+
     /** The bodies of methods are indented once more than the line that begins them. */
     private static void methodsAreShort(List<String> lines) {
         Pattern head = Pattern.compile("^( +)(public|private)[^;={]*\\(.*\\{$");
@@ -121,6 +142,8 @@ public final class LanguageTests {
         face();
         fields();
         words(bare);
+        library(bare);
+        loops(bare);
         methodsAreShort(List.of(bare.split("\n")));
         System.out.println(wrong == 0 ? "the language is kept to" : wrong + " things are outside it");
         if (wrong != 0) System.exit(1);
